@@ -535,10 +535,14 @@ public final class RebuildScheduler {
         }
 
         int takeNumber(int least, int most) {
-            return takeNumber(least, most, false);
+            return takeFitting(least, most, false);
         }
 
-        int takeNumber(int least, int most, boolean isZeroFine) {
+        int takeNumberOrZero(int least, int most) {
+            return takeFitting(least, most, true);
+        }
+
+        private int takeFitting(int least, int most, boolean isZeroFine) {
             if (kind != NUMBER) {
                 report(SYNTAX);
                 return 0;
@@ -611,7 +615,7 @@ public final class RebuildScheduler {
         private void readShare(Text text, int tenant) {
             reservation[tenant] = text.takeNumber(0, 1000);
             weight[tenant] = text.takeNumber(1, 100);
-            limit[tenant] = text.takeNumber(reservation[tenant], 1000, true);
+            limit[tenant] = text.takeNumberOrZero(reservation[tenant], 1000);
         }
 
         static boolean isShare(int reservation, int weight, int limit) {

@@ -9,6 +9,7 @@ public final class DisksTest {
         failedDisk();
         queueLengths();
         tagsOfAQueue();
+        leastShares();
         reservationIsGivenBack();
         tagsRefuse();
         waysInOrder();
@@ -88,6 +89,20 @@ public final class DisksTest {
         odd.submit(1, 0, false, -1);
         odd.advance(1);
         tags(odd, 1, 1, 333333, 142857, 111111);
+    }
+
+    private static void leastShares() {
+        RebuildScheduler x = equalTenants("1 1 1", "0 1 0", "slack 0;");
+        x.submit(1, 0, false, 1);
+        x.submit(1, 0, false, 900);
+        x.submit(1, 0, false, 900);
+        tags(x, 1, 1, 0, 0, 0);
+        x.advance(1);
+        Check.is("promoted", x.chosen(1, 0), 1);
+        tags(x, 1, 1, 0, 1000000, 1000000);
+        x.advance(4);
+        Check.is("reserved", x.chosen(1, 1), 1);
+        tags(x, 1, 1, 1000000, 2000000, 2000000);
     }
 
     private static void reservationIsGivenBack() {

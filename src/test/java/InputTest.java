@@ -14,6 +14,7 @@ public final class InputTest {
         bytesInOrder();
         arrayLengths();
         arrayReplaces();
+        arrayBeginsAnew();
         arrayKeepsOldOnError();
         arrayForms();
         arrayErrors();
@@ -153,6 +154,80 @@ public final class InputTest {
         Check.is("no tag of the old array is left", x.tag(1, 1, 1), 0);
     }
 
+    /** An object that has lived answers as a new one does once it has a new array. */
+    private static void arrayBeginsAnew() {
+        RebuildScheduler used = Check.loaded("disks 6 stripes 9 base 3 seek 16; rebuild 9 1 20 window 2 cache 9;"
+                + "tenant 5 1 900; tenant 5 50 0;");
+        Check.trace(used, "at 2 1 reads 6; at 3 2 reads 29; at 4 1 reads 31 by 4; at 5 1 reads 40; at 999 1 reads 0;");
+        used.promise(9000);
+        used.fail(3);
+        for (int unit = 0; unit < 45; unit += 4) {
+            used.submit(1 + unit % 2, unit, unit % 3 == 0, unit % 5 == 0 ? 5 : -1);
+        }
+        used.advance(40);
+        used.forecast();
+        Check.is("units are held", used.cachedUnits() > 0, true);
+        Check.is("stripes are rebuilt", used.rebuiltCount() > 0 && used.rebuiltCount() < 9, true);
+        used.loadArray(Check.feed(used, ARRAY));
+        sameLife(used, Check.loaded(ARRAY));
+        Check.is("it was complete", used.completedAt() > 0, true);
+        used.loadArray(Check.feed(used, ARRAY));
+        sameLife(used, Check.loaded(ARRAY));
+    }
+
+    private static void sameLife(RebuildScheduler one, RebuildScheduler other) {
+        same(one, other);
+        for (RebuildScheduler x : new RebuildScheduler[] {one, other}) {
+            x.submit(1, 0, false, 9);
+            x.submit(2, 4, true, -1);
+            x.submit(2, 7, false, -1);
+            x.fail(1);
+            x.submit(1, 3, false, 2);
+        }
+        for (int i = 0; i < 80; i++) {
+            same(one, other);
+            one.advance(1);
+            other.advance(1);
+        }
+    }
+
+    private static void same(RebuildScheduler one, RebuildScheduler other) {
+        Check.is("forecast", one.forecast(), other.forecast());
+        Check.is("bound", one.bound(), other.bound());
+        Check.is("cachedUnits", one.cachedUnits(), other.cachedUnits());
+        Check.is("rebuiltCount", one.rebuiltCount(), other.rebuiltCount());
+        Check.is("completedAt", one.completedAt(), other.completedAt());
+        Check.is("savedReads", one.savedReads(), other.savedReads());
+        Check.is("piggybackedReads", one.piggybackedReads(), other.piggybackedReads());
+        Check.is("stripeDeadline", one.stripeDeadline(3), other.stripeDeadline(3));
+        for (int disk = 0; disk <= 3; disk++) {
+            Check.is("serving", one.serving(disk), other.serving(disk));
+            Check.is("busyUntil", one.busyUntil(disk), other.busyUntil(disk));
+            Check.is("busyTime", one.busyTime(disk), other.busyTime(disk));
+            Check.is("position", one.position(disk), other.position(disk));
+            for (int tenant = 0; tenant < 3; tenant++) {
+                Check.is("queueLength", one.queueLength(disk, tenant), other.queueLength(disk, tenant));
+            }
+        }
+        for (int tenant = 0; tenant < 3; tenant++) {
+            for (int way = 0; way < 3; way++) {
+                Check.is("chosen", one.chosen(tenant, way), other.chosen(tenant, way));
+            }
+        }
+        for (int tenant = 1; tenant < 3; tenant++) {
+            Check.is("finished", one.finished(tenant), other.finished(tenant));
+            Check.is("totalLatency", one.totalLatency(tenant), other.totalLatency(tenant));
+            Check.is("worstLatency", one.worstLatency(tenant), other.worstLatency(tenant));
+            Check.is("late", one.late(tenant), other.late(tenant));
+        }
+        for (int stripe = 0; stripe < 4; stripe++) {
+            Check.is("stripeState", one.stripeState(stripe), other.stripeState(stripe));
+            for (int disk = 0; disk < 3; disk++) {
+                Check.is("isHeld", one.isHeld(disk, stripe), other.isHeld(disk, stripe));
+            }
+        }
+    }
+
     private static void arrayKeepsOldOnError() {
         RebuildScheduler x = Check.loaded(ARRAY);
         x.submit(1, 0, false, -1);
@@ -207,6 +282,15 @@ public final class InputTest {
         arrayError(SYNTAX, "^disk 3 stripes 4");
         arrayError(SYNTAX, "^diskss 3 stripes 4");
         arrayError(SYNTAX, "^Disks 3 stripes 4");
+        arrayError(SYNTAX, "^disksz 3 stripes 4");
+        arrayError(SYNTAX, "^asks 3 stripes 4");
+        arrayError(SYNTAX, "^misks 3 stripes 4");
+        arrayError(SYNTAX, "disks 3 ^stripez 4");
+        arrayError(SYNTAX, "disks^`3 stripes");
+        arrayError(SYNTAX, "disks^{3 stripes");
+        arrayError(SYNTAX, "disks 3^/stripes");
+        arrayError(SYNTAX, "disks 3^: stripes");
+        arrayError(RANGE, "disks ^90 stripes");
         arrayError(SYNTAX, " ^\tdisks 3 stripes 4");
         arrayError(SYNTAX, "disks^");
         arrayError(SYNTAX, "disks  ^");

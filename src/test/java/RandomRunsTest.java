@@ -71,7 +71,7 @@ public final class RandomRunsTest {
             loadTrace();
         } else if (dice < 98) {
             both("feed", random.nextInt(), random.nextInt(), random.nextInt(), random.nextInt(), random.nextInt());
-        } else if (any(4)) {
+        } else if (any(2)) {
             loadArray();
         }
     }
@@ -225,7 +225,7 @@ public final class RandomRunsTest {
                 both(m.getName());
             }
         }
-        if (any(6)) {
+        if (any(3)) {
             both("forecast");
         }
         for (int tenant = -beyond; tenant < model.tenantCount() + beyond; tenant++) {

@@ -7,6 +7,7 @@ public final class RebuildTest {
         statesOfAStripe();
         windowOfStripes();
         readsAreSaved();
+        savedReadsLeaveTheQueueInOrder();
         readsArePiggybacked();
         writesUndoHolding();
         writesToCollecting();
@@ -19,6 +20,7 @@ public final class RebuildTest {
         forecastChangesNothing();
         forecastEnds();
         bounds();
+        boundsOfAllDisks();
         refuse();
         Check.end();
     }
@@ -107,6 +109,29 @@ public final class RebuildTest {
         Check.is("the second follows", wide.serving(1), 0);
         Check.is("its queue is empty", wide.queueLength(1, 0), 0);
         Check.is("position", wide.position(1), 1);
+    }
+
+    private static void savedReadsLeaveTheQueueInOrder() {
+        RebuildScheduler x = Check.loaded("disks 3 stripes 6 base 4 seek 0; rebuild 0 1 0 window 4 cache 0; tenant 0 100 0;");
+        x.fail(0);
+        // disk 2 has the units 1, 2 and 7 of the stripes 0, 1 and 3, and the parity of the stripe 2
+        x.submit(1, 7, false, 0);
+        x.submit(1, 2, false, 1);
+        x.advance(5);
+        Check.is("the last of four reads is gone", x.queueLength(2, 0), 3);
+        x.advance(4);
+        Check.is("the one in the middle is gone, the first is served", x.queueLength(2, 0), 1);
+        Check.is("savedReads", x.savedReads(), 2);
+        x.advance(4);
+        Check.is("the stripe 2 follows", x.position(2), 2);
+        Check.is("stripe 1 is rebuilt, stripe 4 has started", x.queueLength(2, 0), 1);
+        x.advance(4);
+        Check.is("its read is behind the others", x.position(2), 4);
+        while (x.completedAt() == -1 && x.now() < 200) {
+            x.advance(1);
+        }
+        Check.is("all six stripes", x.rebuiltCount(), 6);
+        Check.is("four reads of disk 2 for the rebuild, two for the tenant", x.busyTime(2), 24);
     }
 
     private static void readsArePiggybacked() {
@@ -365,12 +390,36 @@ public final class RebuildTest {
         Check.is("disk 0 has 1 unit to read, disk 1 has 2", x.bound(), 17);
         x.setShare(0, 7, 1, 0);
         Check.is("2000 / 7 rounded up is 286", x.bound(), 296);
+        x.setShare(0, 1, 1, 0);
+        Check.is("2000 / 1", x.bound(), 2010);
         x.setShare(0, 0, 1, 0);
         Check.is("no reservation", x.bound(), -1);
         x.setShare(0, 1, 1, 0);
         x.advance(1000);
         Check.is("complete", x.completedAt() != -1, true);
         Check.is("nothing to read", x.bound(), 1010);
+    }
+
+    /** Each surviving disk counts, and neither the failed one nor the spare one. */
+    private static void boundsOfAllDisks() {
+        for (int failed = 0; failed < 3; failed++) {
+            RebuildScheduler x = Check.loaded("disks 3 stripes 3 base 4 seek 0; rebuild 100 1 0 window 1 cache 9; tenant 0 100 0;");
+            x.fail(failed);
+            Check.is("3 units", x.bound(), 30);
+            for (int unit = 0; unit < 6; unit++) {
+                x.submit(1, unit, false, 0);
+            }
+            x.advance(20);
+            int most = 0;
+            for (int disk = 0; disk < 3; disk++) {
+                int units = 0;
+                for (int stripe = 0; stripe < 3; stripe++) {
+                    units += disk != failed && x.stripeState(stripe) < 2 && !x.isHeld(disk, stripe) ? 1 : 0;
+                }
+                most = Math.max(most, units);
+            }
+            Check.is("bound", x.bound(), 20 + 10 * most);
+        }
     }
 
     private static void refuse() {
