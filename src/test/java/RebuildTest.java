@@ -18,6 +18,7 @@ public final class RebuildTest {
         operationsHaveTheirDeadlines();
         forecasts();
         forecastChangesNothing();
+        forecastLosesLines();
         forecastEnds();
         bounds();
         boundsOfAllDisks();
@@ -347,6 +348,24 @@ public final class RebuildTest {
         Check.is("busyUntil", x.busyUntil(0), 5);
         Check.is("isHeld", x.isHeld(0, 0), false);
         states(x, "100");
+    }
+
+    /** Lines that find 400 requests are lost in thought too, and the forecast heeds that. */
+    private static void forecastLosesLines() {
+        RebuildScheduler x = Check.loaded(SMALL);
+        for (int i = 0; i < 399; i++) {
+            x.submit(1, i % 6, i % 2 == 0, -1);
+        }
+        Check.trace(x, "at 2 1 writes 3 by 2; at 3 1 writes 3 by 3; at 4 1 reads 3 by 4;");
+        x.fail(1);
+        int due = x.forecast();
+        Check.is("no line was lost yet", x.lostLines(), 0);
+        Check.is("requestCount", x.requestCount(), 399);
+        while (x.completedAt() == -1 && x.now() < 20000) {
+            x.advance(1);
+        }
+        Check.is("two lines were lost", x.lostLines(), 2);
+        Check.is("forecast", due, x.completedAt());
     }
 
     private static void forecastEnds() {
