@@ -1,6 +1,7 @@
 /** What the tests share: comparing answers, and feeding texts. */
 final class Check {
     private static int wrong = 0;
+    private static String sentence = "";
 
     private Check() {
     }
@@ -9,10 +10,20 @@ final class Check {
         void make();
     }
 
+    /** The sentence of the document that the checks from here on test; a wrong answer names it. */
+    static void about(String ofTheDocument) {
+        sentence = ofTheDocument + ": ";
+    }
+
     static void is(String what, long got, long due) {
         if (got != due) {
-            wrong++;
-            System.out.println(what + " answered " + got + ", due is " + due);
+            fail(what + " answered " + got + ", due is " + due);
+        }
+    }
+
+    static void is(String what, String got, String due) {
+        if (!got.equals(due)) {
+            fail(what + " answered " + got + ", due is " + due);
         }
     }
 
@@ -46,7 +57,7 @@ final class Check {
 
     static void fail(String what) {
         wrong++;
-        System.out.println(what);
+        System.out.println(sentence + what);
     }
 
     static int wrongAnswers() {
@@ -78,6 +89,13 @@ final class Check {
 
     static int trace(RebuildScheduler x, String trace) {
         return x.loadTrace(feed(x, trace));
+    }
+
+    /** Lets ticks pass up to a tick, in as few calls as possible. */
+    static void advanceTo(RebuildScheduler x, int tick) {
+        while (x.now() < tick) {
+            x.advance(Math.min(2000, tick - x.now()));
+        }
     }
 
     static void end() {
