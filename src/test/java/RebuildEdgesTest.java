@@ -33,7 +33,9 @@ public final class RebuildEdgesTest {
         forecastOf20000Ticks();
         forecastUpToTheLastTick();
         forecastHeedsAllThatCounts();
+        forecastHeedsTheLastOperation();
         forecastsOfManyStates();
+        forecastOfTheLargestArray();
         nothingChangesByAForecast();
         noBound();
         boundRoundsUp();
@@ -577,6 +579,44 @@ public final class RebuildEdgesTest {
             x.advance(1 + part);
             follows("part " + part, x);
         }
+    }
+
+    /** The last request has an operation on the spare disk of six: the last place of all. */
+    private static void forecastHeedsTheLastOperation() {
+        Check.about("lets ticks pass in thought (with every operation that is queued)");
+        RebuildScheduler x = Check.loaded("disks 6 stripes 2 base 9 seek 0; rebuild 0 100 0 window 1 cache 0; tenant 0 1 1;");
+        x.fail(1);
+        x.advance(19);
+        states(x, "31");
+        x.submit(1, 0, false, -1);
+        x.submit(1, 0, false, -1);
+        Check.is("both are on the spare disk", x.queueLength(6, 1), 2);
+        x.advance(1);
+        Check.is("the second waits for its L tag", x.queueLength(6, 1), 1);
+        Check.is("forecast", x.forecast(), 38);
+        follows("the last operation", x);
+    }
+
+    private static void forecastOfTheLargestArray() {
+        Check.about("3 to 6 disks, 1 to 64 stripes, at most 5 other tenants, at most 400 requests");
+        RebuildScheduler x = Check.loaded("disks 6 stripes 64 base 2 seek 1; rebuild 30 10 0 window 8 cache 64;"
+                + "tenant 9 9 0; tenant 9 9 50; tenant 0 9 0; tenant 0 1 0; tenant 5 1 9; slack 500;");
+        for (int i = 0; i < 395; i++) {
+            x.submit(1 + i % 5, i * 7 % 320, i % 3 == 0, i % 4 == 0 ? i : -1);
+        }
+        Check.trace(x, "at 2 5 reads 319; at 3 4 writes 319; at 3 5 reads 0; at 4 5 writes 4; at 5 5 reads 8; at 6 1 reads 0;");
+        x.advance(1);
+        x.fail(5);
+        x.promise(99999);
+        follows("the largest array", x);
+        Check.is("a line was lost", x.lostLines(), 1);
+        Check.is("all stripes", x.rebuiltCount(), 64);
+        Check.advanceTo(x, 12000);
+        int finished = 0;
+        for (int tenant = 1; tenant <= 5; tenant++) {
+            finished += x.finished(tenant);
+        }
+        Check.is("all requests", finished, 400);
     }
 
     /** The forecast is what comes to pass if nothing else is asked for. */
